@@ -14,6 +14,7 @@ public final class PromisesTest {
         feeding();
         faults();
         values();
+        longestText();
         namesOfTexts();
         forcing();
         hoursOfDay();
@@ -231,6 +232,8 @@ public final class PromisesTest {
         fault("pulls 1 2;", 8);
         fault("pulls 1length length;", 7);
         fault("pulls lengths;", 6);
+        fault("pulls wornz;", 6);
+        fault("pulls aorn;", 6);
         fault("pulls Length;", 6);
         fault("pulls 1 > 2;", 8);
         fault("pulls 1\t;", 7);
@@ -287,6 +290,8 @@ public final class PromisesTest {
         value("0 or 0", 0);
         value("7 and 9", 1);
         value("7 and 0", 0);
+        value("1 and 9", 1);
+        value("0 and 9", 0);
         value("1 or 1 and 0", 1);
         value("(1 or 1) and 0", 0);
         value("not 7", 0);
@@ -307,8 +312,26 @@ public final class PromisesTest {
         value("1000", 999);
     }
 
+    private static void longestText() {
+        String most = "wears " + "1+".repeat(60) + "1;stands 9;";
+        int more = (160 - 9 - most.length()) / 2;
+        String text = "pulls(1)" + "+1".repeat(more) + ";" + most;
+        SewsUpTheAfternoon x = new SewsUpTheAfternoon();
+        due("text of " + text.length(), read(x, text), 1);
+        x.force(1);
+        x.seam(0, 0, 101);
+        due("long pulls", x.told(0, 12), 1 + more);
+        due("long wears", x.told(0, 8), 61);
+        due("text behind a long fault", read(x, text.substring(0, 150)), -250);
+        due("text that comes anew", read(x, text), 2);
+        due("force 2", x.force(2), 1);
+        due("pulls anew", x.told(0, 12), 1 + more);
+        due("fault at 160", read(x, "pulls(-1)" + "+1".repeat(75) + "+"), -100 - 160);
+        due("fault of 160 signs", read(x, ";".repeat(160)), -100);
+    }
+
     private static void namesOfTexts() {
-        SewsUpTheAfternoon x = by("pulls joy + 2*seams;wears joy+day+number;stands 100*length+10*worn+seams;");
+        SewsUpTheAfternoon x = by("pulls joy + 2*seams;wears joy+day+number;stands 100*length+10*worn+seams+joy;");
         x.set(1, 4, 7);
         x.set(1, 7, -3);
         x.set(0, 0, 30);
@@ -377,6 +400,9 @@ public final class PromisesTest {
         y.seam(0, 0, 202);
         due("edges by 0", y.hours(2), 1 << 1 | 1 << 3);
         due("tightest by 0", y.hours(4), 1);
+        y.set(4, 0, 1);
+        y.seam(0, 0, 101);
+        due("tightest may be the first hour", y.hours(4), 0);
         y.seam(0, 0, 15);
         due("edges of none left", y.hours(2), 0);
         due("stretch of none left", y.hours(3), 0);
@@ -498,6 +524,7 @@ public final class PromisesTest {
         y.seam(0, 0, 303);
         // both pull by 2 at 0, 2, 2, 4; one alone by 1 at two hours
         due("unpick counts without", y.unpick(1), -2);
+        due("unpick the first of like", y.unpick(0), 0);
     }
 
     private static void threading() {
@@ -586,6 +613,7 @@ public final class PromisesTest {
         due("bad of a missing sheet", x.tells(2, 60), -2);
         negativeBytes();
         movedFirsts();
+        numbersAndTexts();
     }
 
     /** Rows of bytes and shorts are such as the language has: their lowest bits, with a sign. */
@@ -614,6 +642,27 @@ public final class PromisesTest {
         due("firsts in the middle", x.tells(0, 50), (1 << 13) - 2);
         row(x, 0, 2, -1);
         due("firsts cut off", x.tells(0, 50), 1 << 15);
+    }
+
+    private static void numbersAndTexts() {
+        SewsUpTheAfternoon x = new SewsUpTheAfternoon();
+        x.seam(0, 4, 0);
+        x.seam(4, 4, 1515);
+        due("text 1", read(x, "pulls 1+(number<4);wears 0;stands 9;"), 1);
+        due("text 2", read(x, "pulls 1;wears 0;stands 9;"), 2);
+        // 1 by the seam, 1 and 2 and 4 by the darn
+        row(x, 0, 1, -8, -8);
+        due("texts but by joy", x.tells(0, 1), 7);
+        x.force(1);
+        due("numbers from 4 on", x.tells(0, 20), 1023 - 15);
+        // 3 more than 2 and 2, or 4 more than 1 and 2
+        due("number of the darn", x.tells(0, 21), 3 << 3);
+        row(x, 0, 1, -9, -9);
+        due("numbers below 4", x.tells(0, 20), 15);
+        due("numbers of the darn", x.tells(0, 21), 1 << 5);
+        due("no texts", x.tells(0, 1), 0);
+        x.set(2, 0, 0);
+        due("one text", x.tells(0, 1), 2);
     }
 
     private static void filming() {
@@ -652,27 +701,33 @@ public final class PromisesTest {
         due("joys as they were", x.told(3, 1), 0);
         due("chance of one", x.chance(1, 1, 0), with > all ? 1 : 0);
         due("chance of one, below", x.chance(1, 1, 1), 1);
-        int more = 0;
-        for (int i = 0; i < 20; i++) {
-            SewsUpTheAfternoon y = new SewsUpTheAfternoon();
-            more += x.drawn(Integer.MAX_VALUE - 3 + i) > y.drawn(Integer.MAX_VALUE - 3 + i) ? 1 : 0;
-        }
-        due("chance of twenty", x.chance(Integer.MAX_VALUE - 3, 20, 0) * 20, x.chance(Integer.MAX_VALUE - 3, 20, 1) * more);
-        lowestTerms(x);
+        chances();
         due("chance of none", x.chance(1, 0, 0), NO);
         due("chance of 21", x.chance(1, 21, 0), NO);
         due("chance part 2", x.chance(1, 1, 2), NO);
         due("chance part -1", x.chance(1, 1, -1), NO);
     }
 
-    private static void lowestTerms(SewsUpTheAfternoon x) {
-        for (int seed = 0; seed < 40; seed++) {
-            long above = x.chance(seed, 12, 0);
-            long below = x.chance(seed, 12, 1);
-            boolean lowest = !(above % 2 == 0 && below % 2 == 0) && !(above % 3 == 0 && below % 3 == 0);
-            due("chance in lowest terms by " + seed, lowest && 12 % below == 0 ? 1 : 0, 1);
+    /** A seam over all hours makes a day 0: it is more where what is drawn is less than 0 together. */
+    private static void chances() {
+        SewsUpTheAfternoon none = new SewsUpTheAfternoon();
+        SewsUpTheAfternoon x = new SewsUpTheAfternoon();
+        x.seam(0, 0, 15);
+        int[] seeds = {0, 1, -5, 1000, Integer.MAX_VALUE - 3, Integer.MIN_VALUE};
+        for (int seed : seeds) {
+            int above = 0;
+            for (int m = 1; m <= 20; m++) {
+                above += none.drawn(seed + m - 1) < 0 ? 1 : 0;
+                int d = 1;
+                for (int k = 2; k <= m; k++) {
+                    d = above % k == 0 && m % k == 0 ? k : d;
+                }
+                due("chance by " + seed + " of " + m, x.chance(seed, m, 0), above / d);
+                due("chance by " + seed + " of " + m + ", below", x.chance(seed, m, 1), m / d);
+            }
         }
-        due("chance of none above", new SewsUpTheAfternoon().chance(5, 7, 1), 1);
+        due("as much is not more", none.chance(5, 7, 0), 0);
+        due("none above, below", none.chance(5, 7, 1), 1);
     }
 
     private static void imaging() {
@@ -705,12 +760,15 @@ public final class PromisesTest {
         due("back tape stays", x.count(4), 1);
         due("back sheets stay", x.cell(1, 2, 0), 1);
         x.seam(5, 1, 1111);
+        x.set(3, 1, 44);
+        x.set(4, 1, 1);
         x.set(3, 0, 77);
         due("back once more", x.back(), 1);
         due("worn once more", x.told(0, 3), 6);
         due("seam gone", x.told(1, 5), -1000);
         due("seam anew", x.seam(0, 3, 909), 1);
         due("seam anew is not worn", x.told(1, 3), 0);
+        due("seam anew is not burst", x.told(1, 4), 0);
         due("image anew", x.image(), 2);
         due("back anew", x.back(), 2);
     }
