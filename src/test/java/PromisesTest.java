@@ -1,9 +1,7 @@
 /** Each promise by hand: ordinary calls, the edges that the document names, wrong calls. */
-public final class PromisesTest {
+public final class PromisesTest extends Checks {
     private static final String RULE_OF_NUMBERS = "pulls 30;wears 11;stands 50;";
     private static final long NO = -4611686018427387904L;
-    private static int wrong = 0;
-    private static int held = 0;
 
     public static void main(String[] args) {
         newObject();
@@ -33,45 +31,7 @@ public final class PromisesTest {
         copying();
         seamsBySheet();
         takenFor();
-        System.out.println(held + " answers held, " + wrong + " wrong");
-        if (wrong != 0) {
-            System.exit(1);
-        }
-    }
-
-    private static void due(String call, long got, long want) {
-        held++;
-        if (got != want) {
-            wrong++;
-            System.out.println(call + " answered " + got + ", due is " + want);
-        }
-    }
-
-    private static int read(SewsUpTheAfternoon x, String text) {
-        for (int i = 0; i < text.length(); i++) {
-            x.feed(text.charAt(i));
-        }
-        return x.text();
-    }
-
-    private static SewsUpTheAfternoon by(String text) {
-        SewsUpTheAfternoon x = new SewsUpTheAfternoon();
-        due("text of " + text, read(x, text), 1);
-        due("force(1)", x.force(1), 0);
-        return x;
-    }
-
-    private static void joys(SewsUpTheAfternoon x, int... joys) {
-        for (int h = 0; h < joys.length; h++) {
-            x.set(1, h, joys[h]);
-        }
-    }
-
-    private static void row(SewsUpTheAfternoon x, int sheet, int sort, int... items) {
-        due("sheet", x.sheet(sheet, sort, items.length), 1);
-        for (int i = 0; i < items.length; i++) {
-            due("cell " + i, x.cell(sheet, i, items[i]), 1);
-        }
+        end();
     }
 
     private static void newObject() {
@@ -364,12 +324,6 @@ public final class PromisesTest {
         due("the rule", x.count(5), 3);
         due("force 0", x.force(0), 3);
         due("by 0", x.told(0, 12), 1);
-    }
-
-    private static SewsUpTheAfternoon anAfternoon() {
-        SewsUpTheAfternoon x = new SewsUpTheAfternoon();
-        joys(x, 5, 10, -3, 8, -20, -15, 30, 2, 0, -40, 12, 7, -6, 25, -1, 9);
-        return x;
     }
 
     private static void hoursOfDay() {
