@@ -556,12 +556,11 @@ public final class DayBoundsTest extends Checks {
         }
         y.set(3, 0, 6);
         y.set(3, 1, 2);
-        y.set(3, 2, 1);
-        // 9, 5 and 4: 0 bursts by 9, 1 stands by 6, 2 stands by 6
+        // 9, 5 and 3: 0 bursts by 9, 1 stands by 6, 2 stands by 6
         due("pass by 3 seams", y.pass(), 1);
         due("worn of 1 by 3", y.told(1, 3), 5);
-        due("worn of 2 by 3", y.told(2, 3), 4);
-        // 7 and 6: 1 bursts by 6, then 2 by 3
+        due("worn of 2 by 3", y.told(2, 3), 3);
+        // 7 and 5: 1 bursts by 6, then 2 by 3
         due("pass by 2 seams", y.pass(), 6);
         // of another order: what is ahead by number stands by more
         SewsUpTheAfternoon z = by("pulls 0;wears 0;stands 3*seams;");

@@ -286,8 +286,11 @@ public final class PromisesTest extends Checks {
         due("text that comes anew", read(x, text), 2);
         due("force 2", x.force(2), 1);
         due("pulls anew", x.told(0, 12), 1 + more);
-        due("fault at 160", read(x, "pulls(-1)" + "+1".repeat(75) + "+"), -100 - 160);
-        due("fault of 160 signs", read(x, ";".repeat(160)), -100);
+        due("wears anew", x.told(0, 8), 61);
+        due("stands anew", x.told(0, 9), 9);
+        SewsUpTheAfternoon y = new SewsUpTheAfternoon();
+        due("fault at 160", read(y, "pulls(-1)" + "+1".repeat(75) + "+"), -100 - 160);
+        due("fault of 160 signs", read(y, ";".repeat(160)), -100);
     }
 
     private static void namesOfTexts() {

@@ -2,13 +2,19 @@ import java.lang.reflect.InvocationTargetException;
 import java.lang.reflect.Method;
 import java.util.ArrayList;
 import java.util.Arrays;
+import java.util.Comparator;
 import java.util.List;
+import java.util.Random;
 import java.util.function.Supplier;
 
 /** Each refused call: its answer, and that it changes nothing; so too each call that only asks. */
 public final class RefusalsTest extends Checks {
     private static final int NO_FACT = -1000, NO_WORTH = -100000, NO_DAYS = -1000000;
     private static final long NO = -4611686018427387904L;
+    private static final Method[] CALLS = Arrays.stream(SewsUpTheAfternoon.class.getMethods())
+        .filter(m -> m.getDeclaringClass() == SewsUpTheAfternoon.class)
+        .sorted(Comparator.comparing(Method::getName))
+        .toArray(Method[]::new);
 
     public static void main(String[] args) {
         ofTheDayAndSeams();
@@ -18,6 +24,7 @@ public final class RefusalsTest extends Checks {
         ofDaysThatWereTold();
         ofTheHost();
         whatIsOnlyAsked();
+        noCallThrows();
         end();
     }
 
@@ -132,8 +139,8 @@ public final class RefusalsTest extends Checks {
     }
 
     private static long ask(SewsUpTheAfternoon x, String call, int... args) {
-        for (Method m : SewsUpTheAfternoon.class.getMethods()) {
-            if (m.getName().equals(call) && m.getDeclaringClass() == SewsUpTheAfternoon.class) {
+        for (Method m : CALLS) {
+            if (m.getName().equals(call)) {
                 try {
                     return ((Number) m.invoke(x, Arrays.stream(args).boxed().toArray())).longValue();
                 } catch (IllegalAccessException | InvocationTargetException e) {
@@ -335,5 +342,28 @@ public final class RefusalsTest extends Checks {
         SewsUpTheAfternoon x = day();
         x.back();
         return x.tells(0, 0) + x.tells(1, 0) + x.tells(2, 0);
+    }
+
+    // ---- any call, of any numbers
+
+    private static void noCallThrows() {
+        int[] numbers = {LEAST, -1, 0, 1, 5, 10, 15, 16, 39, 40, 41, 160, 256, 1515, MOST};
+        List<Supplier<SewsUpTheAfternoon>> days = List.of(RefusalsTest::day, RefusalsTest::dayOfSixSeams,
+            RefusalsTest::dayOfSixTexts, RefusalsTest::dayOfNothing);
+        Random random = new Random(7);
+        for (Supplier<SewsUpTheAfternoon> day : days) {
+            for (int round = 0; round < 40; round++) {
+                SewsUpTheAfternoon x = day.get();
+                for (int n = 0; n < 250; n++) {
+                    Method m = CALLS[random.nextInt(CALLS.length)];
+                    int[] args = new int[m.getParameterCount()];
+                    for (int i = 0; i < args.length; i++) {
+                        args[i] = numbers[random.nextInt(numbers.length)];
+                    }
+                    // ask() throws, and so ends the test, if the call does
+                    ask(x, m.getName(), args);
+                }
+            }
+        }
     }
 }

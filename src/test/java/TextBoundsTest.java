@@ -143,6 +143,8 @@ public final class TextBoundsTest extends Checks {
         fault("pulls " + " ".repeat(154), 160);
         fault(text + " ".repeat(159 - text.length()) + ";", 159);
         fault("pulls 1" + "+1".repeat(76) + "+", 160);
+        fault(";".repeat(160), 0);
+        fault("pulls 1" + ";".repeat(153), 8);
         String ones = "1" + "+1".repeat((160 - text.length()) / 2);
         SewsUpTheAfternoon x = by("pulls " + ones + TAIL);
         x.seam(0, 0, 0);
@@ -271,15 +273,16 @@ public final class TextBoundsTest extends Checks {
             fault("pulls " + name.substring(0, name.length() - 1) + TAIL, 6);
             fault("pulls " + name + "s" + TAIL, 6);
             fault("pulls a" + name + TAIL, 6);
+            fault("pulls a" + name.substring(1) + TAIL, 6);
             fault("pulls " + name.substring(0, name.length() - 1) + "a" + TAIL, 6);
             fault("pulls " + name.toUpperCase() + TAIL, 6);
             fault("pulls 1 " + name + TAIL, 8);
         }
-        String[] keys = {"pull", "pullss", "pulla", "wears", "w", "and", "z"};
+        String[] keys = {"pull", "qulls", "pullss", "pulla", "wears", "w", "and", "z"};
         for (String key : keys) {
             fault(key + " 1" + TAIL, 0);
         }
-        String[] joins = {"o", "ors", "oa", "an", "ands", "anz", "xor", "no", "nor", "b"};
+        String[] joins = {"o", "ors", "oa", "an", "ands", "anz", "ar", "end", "xor", "no", "nor", "b"};
         for (String join : joins) {
             fault("pulls 1 " + join + " 1" + TAIL, 8);
         }
@@ -287,6 +290,7 @@ public final class TextBoundsTest extends Checks {
         fault("pulls 1;wears 1;stand 1;", 16);
         fault("pulls no 1" + TAIL, 6);
         fault("pulls nott 1" + TAIL, 6);
+        fault("pulls lot 1" + TAIL, 6);
     }
 
     private static void numbersOf4DigitsAtMost() {
