@@ -113,6 +113,11 @@ public final class BestBoundsTest extends Checks {
         x.set(1, 15, -1);
         x.set(1, 0, 99);
         cut("of all but 0", x, HAIR, 115, 99 - 7);
+        // longer ones pull less, but none is longer than to 15
+        SewsUpTheAfternoon y = by("pulls 20-length;wears 1;stands 9;");
+        allJoys(y, 10);
+        y.set(1, 15, -50);
+        cut("of 15 by less", y, SEAM, 1515, 150 - 19);
     }
 
     private static void cutAlsoIfThereAreSix() {
