@@ -9,6 +9,7 @@ public final class BestBoundsTest extends Checks {
         cutOfLikeOnesTheFirst();
         cutFromTheFirstHourToTheLast();
         cutAlsoIfThereAreSix();
+        cutIsOneMoreThanSix();
         cutOfAllGone();
         cutIsNotWorn();
         cutIsOfItsKindAndNumber();
@@ -131,6 +132,25 @@ public final class BestBoundsTest extends Checks {
         due("no seventh", x.told(6, 5), -1000);
         due("full yet", x.seam(SEAM, 0, 505), FULL);
         due("as it was", x.hours(0), 90);
+    }
+
+    private static void cutIsOneMoreThanSix() {
+        // six seams pull 9 each, seven don't pull at all
+        SewsUpTheAfternoon x = by("pulls 9*(seams<7);wears 1;stands 9;");
+        for (int s = 0; s < 6; s++) {
+            due("seam", x.seam(SEAM, 0, 101), s);
+        }
+        due("pulled by six", x.hours(0), -2 * 6 * 9);
+        cut("is the seventh", x, SEAM, 0, 0);
+        due("pulled by six yet", x.hours(0), -2 * 6 * 9);
+        // the sixth sews up what is bad: it is there beside the one that is thought of
+        SewsUpTheAfternoon y = tens(9, -50);
+        y.set(1, 5, -50);
+        for (int s = 0; s < 6; s++) {
+            due("seam", y.seam(HAIR, 0, s == 5 ? 909 : 1515), s);
+        }
+        due("with 9 sewn up", y.hours(0), 130 - 50);
+        cut("beside the sixth", y, HAIR, 505, 130);
     }
 
     private static void cutOfAllGone() {
